@@ -130,7 +130,7 @@ public final class ScopeLister {
     public boolean hasEdge(int fragment, int hole, int target) throws IndexOutOfBoundsException {
         needHole(fragment, hole);
         needFragment(target);
-        return (graph.targetsOf(2 * fragment + hole) >> target & 1) != 0;
+        return isIn(graph.targetsOf(2 * fragment + hole), target);
     }
 
     public int constrain(int fragment, int hole, int target)
@@ -375,6 +375,11 @@ public final class ScopeLister {
         if (from < 0) {
             throw new IndexOutOfBoundsException("the number to start from is negative");
         }
+    }
+
+    /** Sets of fragments are ints, with a bit for each fragment. */
+    private static boolean isIn(int set, int fragment) {
+        return (set >> fragment & 1) != 0;
     }
 
     private static String wordOf(int kind) {
@@ -810,7 +815,7 @@ public final class ScopeLister {
             }
             for (int middle = 0; middle < sentence.fragments; middle++) {
                 for (int hole = 0; hole < holes; hole++) {
-                    if ((wanted[hole] >> middle & 1) != 0) {
+                    if (isIn(wanted[hole], middle)) {
                         wanted[hole] |= wantedUnder(middle);
                     }
                 }
@@ -823,7 +828,7 @@ public final class ScopeLister {
         private int holesThatWant(int fragment, int holes) {
             int found = 0;
             for (int hole = 0; hole < holes; hole++) {
-                if ((wanted[hole] >> fragment & 1) != 0) {
+                if (isIn(wanted[hole], fragment)) {
                     found |= 1 << hole;
                 }
             }
@@ -833,7 +838,7 @@ public final class ScopeLister {
         /** A fragment that wants itself, or the same in both holes, can stand nowhere. */
         private boolean contradictsItself() {
             for (int fragment = 0; fragment < sentence.fragments; fragment++) {
-                boolean wantsItself = (wantedUnder(fragment) >> fragment & 1) != 0;
+                boolean wantsItself = isIn(wantedUnder(fragment), fragment);
                 if (wantsItself || (wanted[2 * fragment] & wanted[2 * fragment + 1]) != 0) {
                     return true;
                 }
@@ -922,21 +927,23 @@ public final class ScopeLister {
             int closing = path & ~(waiting > 1 ? paths[waiting - 2] : 0);
             int missing = missingIn(closing, used);
             for (int fragment = 0; fragment < sentence.fragments; fragment++) {
-                int itself = 1 << fragment;
-                boolean fits = (welcome & itself) != 0 && (graph.demands[fragment] & ~path) == 0;
-                if (fits && sentence.kinds[fragment] == LEAF) {
-                    fits = (missing & ~itself) == 0;
-                } else if (fits) {
-                    fits = (graph.wantedUnder(fragment) & ~welcome) == 0;
-                }
-                if (fits) {
+                boolean mayStand = isIn(welcome, fragment) && (graph.demands[fragment] & ~path) == 0;
+                if (mayStand && leavesNoneOut(fragment, welcome, missing)) {
                     int nowWaiting = openHoles(fragment, path, waiting - 1);
                     int nowOpened = opened | holesIn(fragment);
                     long extended = ReadingList.extend(order, fragment);
-                    fillNext(depth + 1, nowWaiting, extended, used | itself, nowOpened);
+                    fillNext(depth + 1, nowWaiting, extended, used | (1 << fragment), nowOpened);
                     paths[waiting - 1] = path;
                 }
             }
+        }
+
+        /** A leaf closes holes, which then miss nothing; others open holes for all that they want. */
+        private boolean leavesNoneOut(int fragment, int welcome, int missing) {
+            if (sentence.kinds[fragment] == LEAF) {
+                return (missing & ~(1 << fragment)) == 0;
+            }
+            return (graph.wantedUnder(fragment) & ~welcome) == 0;
         }
 
         /** The unused fragments that no opened hole outside of a path wants. */
@@ -944,7 +951,7 @@ public final class ScopeLister {
             int elsewhere = opened & ~path;
             int found = 0;
             for (int fragment = 0; fragment < sentence.fragments; fragment++) {
-                if ((used >> fragment & 1) == 0 && (graph.demands[fragment] & elsewhere) == 0) {
+                if (!isIn(used, fragment) && (graph.demands[fragment] & elsewhere) == 0) {
                     found |= 1 << fragment;
                 }
             }
@@ -955,7 +962,7 @@ public final class ScopeLister {
         private int missingIn(int closing, int used) {
             int found = 0;
             for (int fragment = 0; fragment < sentence.fragments; fragment++) {
-                if ((used >> fragment & 1) == 0 && (graph.demands[fragment] & closing) != 0) {
+                if (!isIn(used, fragment) && (graph.demands[fragment] & closing) != 0) {
                     found |= 1 << fragment;
                 }
             }
