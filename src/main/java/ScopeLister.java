@@ -1170,7 +1170,7 @@ public final class ScopeLister {
         /** The first reading of a class that is met is the least one of it. */
         private void formClass(int least) {
             search++;
-            int entailed = spread(least, stepsTo, entailedMarks);
+            spread(least, stepsTo, entailedMarks);
             int entailing = spread(least, stepsFrom, entailingMarks);
             boolean isWeakClass = false;
             for (int k = 0; k < entailing; k++) {

@@ -79,8 +79,28 @@ public final class MeaningTest {
             entails(2, 1) = false; classes() = 3; strongest() = 1
             """;
 
+    /** Neighbours of one kind can change places: SSEE, 4 of SESE, 2 of SEES, 2 of ESSE, 4 of ESES, EESS. */
+    private static final String FOUR_QUANTIFIERS = """
+            text some u:a(u);some v:a(v);every w:a(w);every x:a(x);b(u,w)
+            readSentence() = 9; readings() = 24; classes() = 14; strongest() = 1
+            # the first is u v w x, the last is x w v u
+            entails(0, 23) = true; entails(23, 0) = false; classOf(0) = 0; isWeak(0) = false; isWeak(23) = true
+            new
+            text some u:a(u);some v:a(v);every w:a(w);every x:a(x);b(u,w)
+            readSentence() = 9; strongest() = 1
+            new
+            text some u:a(u);some v:a(v);every w:a(w);every x:a(x);b(u,w)
+            readSentence() = 9; isWeak(23) = true; isWeak(7) = false
+            # 7 is v u x w, 1 is u v x w
+            place(7, 0) = 2; place(7, 2) = 0; place(7, 4) = 6; classOf(7) = 0; classOf(1) = 0
+            # two orders of the negations, and three places for each of the four: 2 * 81
+            text every u:a(u);every v:a(v);not;every w:a(w);every x:a(x);not;b(u,w)
+            readSentence() = 11; readings() = 720; classes() = 162; strongest() = 162
+            """;
+
     public static void main(String[] args) {
         Script.exit(Script.run("two quantifiers", TWO_QUANTIFIERS)
-                + Script.run("under negation", UNDER_NEGATION) + Script.run("sequences", SEQUENCES));
+                + Script.run("under negation", UNDER_NEGATION) + Script.run("sequences", SEQUENCES)
+                + Script.run("four quantifiers", FOUR_QUANTIFIERS));
     }
 }

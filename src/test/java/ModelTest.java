@@ -106,6 +106,10 @@ public final class ModelTest {
             text some x:p(x);q(x)
             readSentence() = 3; fingerprint() = 31640394714434
             setFact(0, 2, 0, true) = false; setFact(1, 2, 0, true) = false; fingerprint() = 31640394714435
+            new
+            # asked first: the order 0 1 2 3 4, class 0, weak, true, and then 2 3 0 1 4, class 1, not weak, not true
+            text every x:p(x);some y:q(y);r(x,y)
+            readSentence() = 5; fingerprint() = -8530236946653985185
             """;
 
     private static final String LONGEST = "every u:p(u);some v:p(v);not;every w:p(w);some x:p(x);not;q(u,v)";
