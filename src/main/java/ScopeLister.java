@@ -919,7 +919,7 @@ public final class ScopeLister {
                 list.append(order);
                 return;
             }
-            if (waiting <= 0) {
+            if (waiting <= 0 || waiting > paths.length) {
                 return;
             }
             int path = paths[waiting - 1];
