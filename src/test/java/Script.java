@@ -5,7 +5,10 @@ import java.lang.reflect.Method;
  * Runs calls that are written as text. A line is one of
  * <pre>
  * new                      begins with a new object
+ * == promise 3: ...        begins with a new object, and says which sentence of the document is tried
  * text every x:p(x);q(x)   types these characters, behind what the text has
+ * read q(x) -> -3 2        types these characters into the empty text and reads them: the answers of
+ *                          readSentence and errorKind; the text is cleared, and was empty without error
  * formula 0 = p(x)         reads the formula of a reading, to its end
  * orders = 0 1 2 / 1 0 2   reads the orders of all readings
  * call(1, 2) = answer      one or several calls, with "; " between them
@@ -14,8 +17,12 @@ import java.lang.reflect.Method;
  * where an answer is a number, true, false, or throws and the name of an exception.
  */
 final class Script {
-    private final String name;
+    /** What later calls of one object answer is free. */
+    private static final int MAX_CALLS = 512;
+
+    private String name;
     private ScopeLister lister = new ScopeLister();
+    private int calls;
     private int wrong;
 
     private Script(String name) {
@@ -41,9 +48,15 @@ final class Script {
             return;
         }
         if (line.equals("new")) {
-            lister = new ScopeLister();
+            makeObject();
+        } else if (line.startsWith("== ")) {
+            name = line.substring(3);
+            makeObject();
         } else if (line.startsWith("text ")) {
-            line.substring(5).chars().forEach(lister::type);
+            type(line.substring(5));
+        } else if (line.startsWith("read ")) {
+            int arrow = line.lastIndexOf(" -> ");
+            compare(line, read(line.substring(5, arrow)), line.substring(arrow + 4));
         } else if (line.startsWith("formula ")) {
             int equals = line.indexOf(" = ");
             int reading = Integer.parseInt(line.substring(8, equals));
@@ -57,7 +70,35 @@ final class Script {
         }
     }
 
+    private void makeObject() {
+        lister = new ScopeLister();
+        calls = 0;
+    }
+
+    private void count(int more) {
+        calls += more;
+        if (calls > MAX_CALLS) {
+            throw new IllegalStateException(name + ": more than 512 calls of one object");
+        }
+    }
+
+    private void type(String text) {
+        count(text.length());
+        text.chars().forEach(lister::type);
+    }
+
+    private String read(String text) {
+        type(text);
+        count(3);
+        int answer = lister.readSentence();
+        int kind = lister.errorKind();
+        int length = lister.clearText();
+        String due = length == (kind == 0 ? 0 : text.length()) ? "" : ", and the text had the length " + length;
+        return answer + " " + kind + due;
+    }
+
     private void runCall(String line) {
+        count(1);
         int equals = line.indexOf(" = ");
         String due = line.substring(equals + 3).replaceAll("[.;]$", "");
         compare(line, answer(lister, line.substring(0, equals)), due);
@@ -73,7 +114,8 @@ final class Script {
     private String formula(int reading) {
         StringBuilder signs = new StringBuilder();
         int sign = lister.formulaChar(reading, 0);
-        while (sign >= 0 && signs.length() < 1000) {
+        while (sign >= 0) {
+            count(1);
             signs.append((char) sign);
             sign = lister.formulaChar(reading, signs.length());
         }
@@ -82,9 +124,12 @@ final class Script {
 
     private String orders() {
         StringBuilder all = new StringBuilder();
-        for (int reading = 0; reading < lister.readings(); reading++) {
+        int readings = lister.readings();
+        int fragments = lister.fragments();
+        count(2 + readings * fragments);
+        for (int reading = 0; reading < readings; reading++) {
             all.append(reading == 0 ? "" : " / ");
-            for (int k = 0; k < lister.fragments(); k++) {
+            for (int k = 0; k < fragments; k++) {
                 all.append(k == 0 ? "" : " ").append(lister.place(reading, k));
             }
         }
