@@ -8,11 +8,11 @@ public final class RoomTest {
     private static final long BYTES_OF_CALLS = 20_000;
 
     public static void main(String[] args) {
-        useAll(new ScopeLister(), 1);
+        useAll(new ScopeLister());
         long start = allocated();
         ScopeLister lister = new ScopeLister();
         long made = allocated();
-        useAll(lister, 3);
+        useAll(lister);
         long used = allocated();
         boolean isSmall = made - start < BYTES_OF_OBJECT && used - made < BYTES_OF_CALLS;
         System.out.println("an object: " + (made - start) + " bytes, its calls: " + (used - made) + " bytes");
@@ -25,35 +25,35 @@ public final class RoomTest {
         return threads.getThreadAllocatedBytes(Thread.currentThread().getId());
     }
 
-    private static void useAll(ScopeLister lister, int rounds) {
+    /** Fewer than the 512 calls of an object, the dearest ones among them. */
+    private static void useAll(ScopeLister lister) {
         Random random = new Random(7);
-        for (int round = 0; round < rounds; round++) {
-            for (int k = 0; k < TEXT.length(); k++) {
-                lister.type(TEXT.charAt(k));
-            }
-            lister.readSentence();
-            for (int k = 0; k < 20; k++) {
-                int reading = random.nextInt(lister.readings());
-                lister.place(reading, k % 11);
-                lister.plug(reading, 0, k % 2);
-                lister.above(reading, k % 11);
-                lister.polarity(reading, k % 11);
-                lister.countBelow(0, 2);
-                lister.nextBelow(reading, 2, 0);
-                lister.formulaChar(reading, k);
-                lister.entails(reading, k);
-                lister.classOf(reading);
-                lister.isWeak(reading);
-                lister.setFact(k % 2, k % 2, 0, k % 3 == 0);
-                lister.trueReadings();
-                lister.nextDifferent(k);
-                lister.fingerprint();
-            }
+        for (int k = 0; k < TEXT.length(); k++) {
+            lister.type(TEXT.charAt(k));
+        }
+        lister.readSentence();
+        int readings = lister.readings();
+        for (int k = 0; k < 25; k++) {
+            int reading = random.nextInt(readings);
+            lister.place(reading, k % 11);
+            lister.plug(reading, 0, k % 2);
+            lister.above(reading, k % 11);
+            lister.polarity(reading, k % 11);
+            lister.countBelow(0, 2);
+            lister.nextBelow(reading, 2, 0);
+            lister.formulaChar(reading, k);
+            lister.entails(reading, k);
+            lister.classOf(reading);
+            lister.isWeak(reading);
+            lister.setFact(k % 2, k % 2, 0, k % 3 == 0);
+            lister.trueReadings();
+            lister.nextDifferent(k);
+            lister.fingerprint();
             lister.constrain(0, 1, 2);
             lister.classes();
-            lister.strongest();
             lister.release();
-            lister.setDomain(3);
         }
+        lister.strongest();
+        lister.setDomain(3);
     }
 }
