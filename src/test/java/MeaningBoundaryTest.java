@@ -92,6 +92,9 @@ public final class MeaningBoundaryTest {
             isWeak(0) = false; isWeak(1) = false; isWeak(2) = true; isWeak(3) = true; isWeak(4) = true; isWeak(5) = true
             read every x:p(x);every y:q(y);r(x,y) -> 5 0
             isWeak(0) = false; isWeak(1) = false
+            # the one that entails it comes behind it; without that one, it is not weak
+            read every x:p(x);some y:q(y);r(x,y) -> 5 0
+            isWeak(0) = true; isWeak(1) = false; constrain(0, 1, 2) = 1; isWeak(0) = false; release() = 2; isWeak(0) = true
             """;
 
     private static final String PROMISES = """

@@ -13,6 +13,10 @@ public final class ModelBoundaryTest {
             read some x:b(x);some y:a(y,x);some z:b(z);a(z,z) -> 7 0
             predicates() = 2; arity(0) = 1; arity(1) = 2
             setFact(1, 1, 1, true) = false; setFact(0, 1, 0, true) = false; truth(0) = true
+            # a name is the same if all its letters are
+            read some x:abcde(x);some y:abcd(y);some z:bbcde(z);abcde(y) -> 7 0
+            predicates() = 3; setFact(0, 1, 0, true) = false; setFact(1, 1, 0, true) = false; truth(0) = false
+            setFact(2, 0, 0, true) = false; truth(0) = true
             == promise 24: Sets the size of the domain. Returns the previous size.
             setDomain(3) = 2; setDomain(1) = 3; setDomain(1) = 1; setDomain(2) = 1; setDomain(2) = 2
             read every x:p(x);q(x) -> 3 0

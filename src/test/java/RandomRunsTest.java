@@ -8,6 +8,11 @@ public final class RandomRunsTest {
     private static final String[] WORDS = {"every", "some", "no", "most"};
     private static final String[] NAMES = {"p", "q", "not", "every", "abcde", "no", "r", "u", "most", "some"};
 
+    /** Numbers at the ends of the range, and such as come round to small ones. */
+    private static final int[] FAR = {
+        Integer.MIN_VALUE, Integer.MIN_VALUE + 1, Integer.MAX_VALUE, Integer.MAX_VALUE - 1, 32, 33, 256, 65536, 1 << 30,
+    };
+
     private final Random random;
     private final String title;
     private final ScopeLister lister = new ScopeLister();
@@ -143,15 +148,28 @@ public final class RandomRunsTest {
         return text.toString();
     }
 
+    private int far() {
+        return FAR[random.nextInt(FAR.length)];
+    }
+
     private int fragment() {
+        if (random.nextInt(40) == 0) {
+            return far();
+        }
         return random.nextInt(plain.fragments() + 2) - (random.nextInt(10) == 0 ? 1 : 0);
     }
 
     private int hole() {
+        if (random.nextInt(40) == 0) {
+            return far();
+        }
         return random.nextInt(12) == 0 ? random.nextInt(5) - 2 : random.nextInt(2);
     }
 
     private int reading() {
+        if (random.nextInt(40) == 0) {
+            return far();
+        }
         int count = plain.fragments() == 0 ? 0 : plain.readings();
         return random.nextInt(15) == 0 ? random.nextInt(count + 3) - 1 : random.nextInt(Math.max(1, count));
     }
@@ -159,8 +177,7 @@ public final class RandomRunsTest {
     private int start() {
         return switch (random.nextInt(12)) {
             case 0 -> -1;
-            case 1 -> Integer.MAX_VALUE;
-            case 2 -> Integer.MIN_VALUE;
+            case 1 -> far();
             default -> random.nextBoolean() ? 0 : reading();
         };
     }
@@ -203,7 +220,7 @@ public final class RandomRunsTest {
     private void askModel() {
         int choice = random.nextInt(16);
         switch (choice) {
-            case 0 -> compare("setDomain", random.nextInt(random.nextInt(4) == 0 ? 5 : 4));
+            case 0 -> compare("setDomain", random.nextInt(9) == 0 ? far() : random.nextInt(5));
             case 1 -> compare("predicates");
             case 2 -> compare("arity", random.nextInt(7) - 1);
             case 3 -> compare("truth", reading());
@@ -211,8 +228,9 @@ public final class RandomRunsTest {
             case 5 -> compare("nextDifferent", start());
             default -> {
                 boolean fact = random.nextInt(5) > 0;
+                int second = random.nextInt(20) == 0 ? far() : random.nextInt(choice < 10 ? 4 : 1);
                 compare("setFact", random.nextInt(6) - (choice == 6 ? 1 : 0), random.nextInt(3) - (choice == 7 ? 1 : 0),
-                        random.nextInt(choice < 10 ? 4 : 1), fact);
+                        second, fact);
             }
         }
     }

@@ -15,6 +15,14 @@ public final class TextBoundaryTest {
             read mostt x:p(x);q(x) -> -6 1
             read not x:p(x);q(x) -> -4 1
             read Every x:p(x);q(x) -> -1 1
+            # only the first letter is another one
+            read avery x:p(x);q(x) -> -6 1
+            read come x:p(x);q(x) -> -5 1
+            read so x:p(x);q(x) -> -3 1
+            read host x:p(x);q(x) -> -5 1
+            # only the last letter is another one
+            read everz x:p(x);q(x) -> -6 1
+            read nu x:p(x);q(x) -> -3 1
             == Terms: a blank
             read nox:p(x);q(x) -> -4 1
             read no  x:p(x);q(x) -> -4 1
@@ -38,6 +46,8 @@ public final class TextBoundaryTest {
             read no x:p(x);not;q(x) -> 4 0
             read nots;no x:p(x);q(x) -> -5 1
             read nit;no x:p(x);q(x) -> -4 1
+            read hot;no x:p(x);q(x) -> -4 1
+            read nor;no x:p(x);q(x) -> -4 1
             read not no x:p(x);q(x) -> -4 1
             == Terms: the last item is an atom, the nucleus
             read not -> -4 1
@@ -186,11 +196,14 @@ public final class TextBoundaryTest {
             read no x:p(x,x);p(x) -> -13 2
             read no x:p(x);some y:p(y,x);q(x) -> -18 2
             read no x:p(x);some y:q(y);p(x,y) -> -23 2
+            read no x:abcde(x);abcde(x,x) -> -15 2
+            read no x:ab(x,x);some y:ba(y);ab(x) -> -27 2
             read no x:p(x);p(x) -> 3 0
             read no x:p(x);pp(x,x) -> 3 0
             read no x:pp(x);p(x,x) -> 3 0
             read no x:ab(x);ac(x,x) -> 3 0
             read no x:ab(x);bb(x,x) -> 3 0
+            read no x:ab(x);ba(x,x) -> 3 0
             == Terms: its position is the least index that belongs to one of them
             # the variable that is there twice, before its restriction
             read no x:p(x);some x:p(y);q(x) -> -16 2
@@ -210,6 +223,10 @@ public final class TextBoundaryTest {
             """;
 
     private static final String PROMISES = """
+            == Terms: There is a text, a buffer of at most 100 characters with codes from 32 to 126, initially empty.
+            clearText() = 0; type(32) = 1; type(126) = 2; readSentence() = -1; clearText() = 2
+            text ~~~~~~~~~~~~~~~~~~~~~~~~~~~~~~~~~~~~~~~~~~~~~~~~~~~~~~~~~~~~~~~~~~~~~~~~~~~~~~~~~~~~~~~~~~~~~~~~~~~
+            type(126) = 100; type(126) = throws IllegalStateException; clearText() = 100
             == promise 1: Creates a lister without a sentence.
             errorKind() = 0; clearText() = 0; fragments() = 0; predicates() = 0; fingerprint() = 35557
             kindOf(0) = throws IndexOutOfBoundsException; hasEdge(0, 0, 0) = throws IndexOutOfBoundsException
