@@ -1,9 +1,16 @@
+import java.io.IOException;
 import java.lang.reflect.Constructor;
 import java.lang.reflect.Field;
 import java.lang.reflect.Method;
 import java.lang.reflect.Modifier;
+import java.nio.file.Files;
+import java.nio.file.Path;
+import java.util.ArrayList;
+import java.util.List;
 import java.util.Set;
 import java.util.TreeSet;
+import java.util.regex.Matcher;
+import java.util.regex.Pattern;
 
 /** The public face is that of the document, and there is nothing beside it. */
 public final class FaceTest {
@@ -40,9 +47,20 @@ public final class FaceTest {
             long fingerprint()
             """;
 
+    /** "Ahead of the calls ... the interface says: ---- ...": what stands in the source, from the first line on. */
+    private static final List<String> IN_ORDER = List.of(
+            "---- text, sentence", "type", "clearText", "readSentence", "errorKind", "fragments", "kindOf", "hasEdge",
+            "constrain", "release",
+            "---- readings", "readings", "place", "plug", "above", "polarity", "countBelow", "nextBelow", "formulaChar",
+            "---- meaning", "entails", "classOf", "classes", "isWeak", "strongest",
+            "---- models", "setDomain", "predicates", "arity", "setFact", "truth", "trueReadings", "nextDifferent",
+            "fingerprint", "---- what several calls share");
+    private static final Pattern HEADING_OR_CALL =
+            Pattern.compile("(?m)^    (?:// (---- .*)|public \\w+ (\\w+)\\(.*)$");
+
     private static int wrong = 0;
 
-    public static void main(String[] args) {
+    public static void main(String[] args) throws IOException {
         Class<?> face = ScopeLister.class;
         check(Modifier.isPublic(face.getModifiers()) && Modifier.isFinal(face.getModifiers()), "public final");
         checkMethods(face);
@@ -53,6 +71,7 @@ public final class FaceTest {
             check(Modifier.isPrivate(field.getModifiers()), field.toString());
         }
         checkInside(face);
+        checkHeadings();
         Script.exit(wrong);
     }
 
@@ -65,6 +84,15 @@ public final class FaceTest {
             }
         }
         check(got.equals(due), "the face is " + got);
+    }
+
+    private static void checkHeadings() throws IOException {
+        List<String> got = new ArrayList<>();
+        Matcher line = HEADING_OR_CALL.matcher(Files.readString(Path.of("src/main/java/ScopeLister.java")));
+        while (line.find()) {
+            got.add(line.group(1) == null ? line.group(2) : line.group(1));
+        }
+        check(got.equals(IN_ORDER), "headings and calls are " + got);
     }
 
     private static String describe(Method method) {

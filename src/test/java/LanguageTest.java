@@ -18,7 +18,11 @@ import com.sun.source.util.TreePathScanner;
 import com.sun.source.util.Trees;
 import java.io.File;
 import java.io.IOException;
+import java.util.HashMap;
+import java.util.HashSet;
+import java.util.Map;
 import java.util.Set;
+import java.util.TreeSet;
 import javax.lang.model.element.Element;
 import javax.lang.model.element.ElementKind;
 import javax.lang.model.element.Modifier;
@@ -37,8 +41,14 @@ public final class LanguageTest extends TreePathScanner<Void, Void> {
     private static final Set<String> CONSTANTS = Set.of(
             "int", "long", "boolean", "char", "String", "int[]", "long[]", "char[]", "byte[]");
 
+    /** Those that carry their depth as an argument, and the one between two of them. */
+    private static final Set<String> RECURSIVE = Set.of("fillNext", "holds", "quantifierHolds", "writeFragment");
+
     private final Trees trees;
     private final CompilationUnitTree unit;
+
+    /** The class's own methods that each of its methods calls. */
+    private final Map<Element, Set<Element>> callees = new HashMap<>();
     private int classes;
     private int wrong;
 
@@ -57,6 +67,7 @@ public final class LanguageTest extends TreePathScanner<Void, Void> {
         LanguageTest test = new LanguageTest(Trees.instance(task), unit);
         test.scan(new TreePath(unit), null);
         test.check(test.classes <= 12, "rule 11: many classes", "");
+        test.measureCalls();
         Script.exit(test.wrong);
     }
 
@@ -108,7 +119,42 @@ public final class LanguageTest extends TreePathScanner<Void, Void> {
         boolean isOwn = owner.equals("ScopeLister") || owner.startsWith("ScopeLister.");
         boolean isSuper = method != null && method.getKind() == ElementKind.CONSTRUCTOR;
         check(isOwn || isSuper || LIBRARY.contains(name), "rule 4", name);
+        if (isOwn && !isSuper) {
+            callees.computeIfAbsent(caller(), key -> new HashSet<>()).add(method);
+        }
         return super.visitMethodInvocation(tree, none);
+    }
+
+    private Element caller() {
+        TreePath path = getCurrentPath();
+        while (!(path.getLeaf() instanceof MethodTree) && !(path.getLeaf() instanceof ClassTree)) {
+            path = path.getParentPath();
+        }
+        return trees.getElement(path);
+    }
+
+    private void measureCalls() {
+        Set<String> recursive = new TreeSet<>();
+        for (Element method : callees.keySet()) {
+            int depth = depthFrom(method, new HashSet<>(), recursive);
+            check(depth <= 8, "rule 11: calls that are no recursion go " + depth + " deep", method);
+        }
+        check(recursive.equals(RECURSIVE), "rule 8: recursion without a depth that is carried", recursive);
+    }
+
+    /** The longest chain of calls in which no method stands twice. */
+    private int depthFrom(Element method, Set<Element> open, Set<String> recursive) {
+        int deepest = 0;
+        open.add(method);
+        for (Element callee : callees.getOrDefault(method, Set.of())) {
+            if (open.contains(callee)) {
+                recursive.add(callee.getSimpleName().toString());
+            } else {
+                deepest = Math.max(deepest, depthFrom(callee, open, recursive));
+            }
+        }
+        open.remove(method);
+        return 1 + deepest;
     }
 
     @Override

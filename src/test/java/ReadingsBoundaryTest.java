@@ -22,6 +22,11 @@ public final class ReadingsBoundaryTest {
             == Terms: There can be none.
             read every x:p(x,y);some y:p(y,x);r(x) -> 5 0
             readings() = 0; errorKind() = 0; fragments() = 5; kindOf(4) = 0; hasEdge(0, 1, 3) = true
+            # u and w are in each other's restrictions; v alone has a place, and the search ends without holes
+            read no u:r(u,w);no v:p(v);no w:r(w,u);q(v) -> 7 0
+            readings() = 0; countBelow(2, 6) = 0; constrain(2, 1, 6) = 0; release() = 0
+            read every u:r(u,w);every v:p(v);every w:r(w,u);every x:p(x);s(x,v) -> 9 0
+            readings() = 0; classes() = 0; strongest() = 0; trueReadings() = 0
             == promise 11: Counts the readings.
             read no x:p(x);q(x) -> 3 0
             readings() = 1; constrain(0, 0, 0) = 0; readings() = 0; release() = 1; readings() = 1
